@@ -220,6 +220,29 @@ public final class CarsTest {
         Due.is("18: a wire goes ahead of a kerb", x.meets(0, 0), 3004);
         x.down(4, true);
         Due.is("18: then the kerb", x.meets(0, 0), 4003);
+        kerbRims();
+    }
+
+    /** The wheels come to (5, 2), (5, -2), (-3, 2), (-3, -2): each on a rim, and then in. */
+    private static void kerbRims() {
+        int[][] rims = {{5, 1, 6, 3}, {4, 1, 5, 3}, {4, 2, 6, 3}, {4, 1, 6, 2}, {-3, -3, -2, -1}, {-4, -3, -3, -1},
+            {-4, -2, -2, -1}, {-4, -3, -2, -2}};
+        int[][] ins = {{4, 1, 6, 3}, {4, -3, 6, -1}, {-4, 1, -2, 3}, {-4, -3, -2, -1}};
+        for (int[] k : rims) {
+            Due.is("18: on a rim " + k[0] + " " + k[1], kerbed(k).meets(0, 0), 0);
+        }
+        for (int[] k : ins) {
+            Due.is("18: in a kerb " + k[0] + " " + k[1], kerbed(k).meets(0, 0), 4000);
+        }
+    }
+
+    private static FloatTowers kerbed(int[] k) {
+        FloatTowers x = new FloatTowers();
+        x.car(4, 2, 10, 0);
+        x.stand(0, 0, 0, 0);
+        x.feet(1);
+        x.kerb(k[0], k[1], k[2], k[3]);
+        return x;
     }
 
     private static void otherCars() {
@@ -342,6 +365,8 @@ public final class CarsTest {
         Due.is("20: back", x.way(0, -8, -2, 0, 2, 0), 1);
         Due.is("21: it", x.step(0), 1);
         Due.is("22: three", x.seen(), 3);
+        Due.is("20: as it is", x.way(0, -4, -2, 4, 2, 0), 0);
+        Due.is("21: of none", x.step(0), -2);
         Due.is("20: turned by 1 less", x.way(0, -50, -50, 50, 50, 35), 1);
         Due.is("21: the least", x.step(0), 6);
         Due.is("22: behind six more", x.seen(), 8);

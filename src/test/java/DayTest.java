@@ -8,6 +8,7 @@ public final class DayTest {
         room();
         stuck();
         tasks();
+        justLate();
         Due.close("DayTest");
     }
 
@@ -84,6 +85,8 @@ public final class DayTest {
         Due.is("35: 20", x.block(20, 1, true), -2);
         Due.is("35: 0 minutes", x.block(0, 0, true), -2);
         Due.is("35: 61 minutes", x.block(0, 61, true), -2);
+        Due.is("36: from 19", x.enter(19, 0, 0), 0);
+        Due.is("38: one", x.home(), 1);
         Due.is("35: least", x.block(0, 1, true), 1);
         Due.is("35: most", x.block(19, 60, false), 1);
         Due.is("36: from -1", x.enter(-1, 1, 0), -2);
@@ -202,6 +205,17 @@ public final class DayTest {
         Due.is("39: in the last minute", x.gone(0), 2000);
     }
 
+    private static void justLate() {
+        FloatTowers x = new FloatTowers();
+        x.task(1, 0);
+        x.task(200, 2000);
+        Due.is("44: by a minute, the first call", x.latest(1), 1);
+        Due.is("44: a minute", x.latest(0), 1);
+        x.task(1, 2);
+        Due.is("44: just in time, looked at anew", x.latest(1), 1);
+        Due.is("43: 202 - 2000", x.late(1), -1798);
+    }
+
     private static void tasks() {
         FloatTowers x = new FloatTowers();
         Due.is("41: 0 minutes", x.task(0, 0), -2);
@@ -233,6 +247,8 @@ public final class DayTest {
         Due.is("44: none is late", x.latest(1), 0);
         Due.is("42: 2", x.crews(4), 2);
         Due.is("43: a crew of its own", x.late(3), 200 - 2000);
+        Due.is("42: 4", x.crews(1), 4);
+        x.crews(4);
         Due.is("43: -1", x.late(-1), -10000);
         Due.is("43: 4", x.late(4), -10000);
         for (int n = 4; n < 12; n++) {

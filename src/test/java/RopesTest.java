@@ -6,6 +6,7 @@ public final class RopesTest {
         refusals();
         numbers();
         bites();
+        newRope();
         pull();
         need();
         woods();
@@ -91,6 +92,20 @@ public final class RopesTest {
         Due.is("25: through (8, -3)", x.tight(0, 1), 105);
     }
 
+    /** At first a rope is 20 feet long, straight ahead, with no hands. */
+    private static void newRope() {
+        FloatTowers x = new FloatTowers();
+        x.car(4, 2, 10, 0);
+        x.stand(0, 0, 0, 0);
+        x.house(24, -9, 30, 9, 1, 1, 0);
+        Due.is("23: 20 feet long", x.tight(0, 0), 1);
+        x.house(23, -9, 30, -1, 1, 1, 0);
+        Due.is("23: more than 19", x.tight(0, 1), 101);
+        x.house(-30, 1, -23, 9, 1, 1, 0);
+        Due.is("23: back", x.tight(0, 2), 102);
+        Due.is("23: nobody at it", x.tight(0, 3), 1);
+    }
+
     private static void pull() {
         FloatTowers x = new FloatTowers();
         x.car(4, 2, 10, 0);
@@ -146,6 +161,22 @@ public final class RopesTest {
         Due.is("28: downhill", x.may(0), 1);
         x.rope(0, 0, 0, 1, 0);
         Due.is("28: nobody pulls", x.may(0), 0);
+        x.set(0, 1);
+        x.rope(0, 0, 10, 1, 9);
+        x.rope(0, 1, 10, 1, 8);
+        x.rope(0, 2, 10, 1, 9);
+        Due.is("26: 10 * 16 / 65", x.pull(0), 2);
+        x.rope(0, 3, 10, 1, 8);
+        Due.is("26: as much back", x.pull(0), 0);
+        Due.is("28: 0 isn't above 0", x.may(0), 0);
+        x.rope(0, 3, 0, 1, 8);
+        x.rope(0, 2, 10, 1, 8);
+        x.rope(0, 0, 10, 1, 8);
+        Due.is("26: 2 and 2 less 2", x.pull(0), 2);
+        Due.is("28: above 0", x.may(0), 1);
+        x.rain(true);
+        Due.is("26: three times 2 * 3 / 4 is 1, one of them back", x.pull(0), 1);
+        Due.is("28: 1 is above 0", x.may(0), 1);
     }
 
     private static void woods() {
@@ -165,6 +196,12 @@ public final class RopesTest {
         Due.is("29: 20 of 6", x.woods(0), 20);
         x.set(2, 5);
         Due.is("29: 20 are not enough", x.woods(0), -1);
+        x.rope(0, 2, 20, 1, 9);
+        x.rope(0, 3, 10, 1, 5);
+        Due.is("26: 30 * 39 / 65", x.pull(0), -18);
+        Due.is("29: 102 are left, 21 would do", x.woods(0), -1);
+        x.rope(0, 2, 10, 1, 9);
+        x.rope(0, 3, 0, 1, 0);
         x.rain(true);
         x.set(2, 13);
         Due.is("29: wet, 19 * 13 / 2 = 123, 18: 117", x.woods(0), 19);

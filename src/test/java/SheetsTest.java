@@ -141,9 +141,47 @@ public final class SheetsTest {
         Due.is("54: one is whole", y.measure(0), 1);
         y.sheet(0, 1, 6);
         Due.is("54: none is whole", y.measure(0), 0);
+        y.sheet(0, 1, 7);
+        int[] own = {-20, -21, -10, -9, 7, 3, 2};
+        for (int i = 0; i < 7; i++) {
+            y.put(0, 1, i, own[i]);
+        }
+        Due.is("54: just whole", y.measure(0), 1);
+        measuredAsItIs(own);
         y.car(2, 2, 1, 0);
         y.storey(0, 99, 1, 1);
         Due.is("54: it stands", y.stand(0, 0, 0, 0), -3);
+    }
+
+    /** A small car beside each end of the house, under its eaves and above them. */
+    private static void measuredAsItIs(int[] own) {
+        FloatTowers x = new FloatTowers();
+        x.sheet(0, 2, 7);
+        for (int i = 0; i < 7; i++) {
+            x.put(0, 2, i, own[i]);
+        }
+        x.measure(0);
+        x.car(2, 2, 1, 0);
+        x.storey(0, 3, 1, 1);
+        Due.is("54: x0, and under E", x.stand(0, -21, -15, 0), 1);
+        Due.is("54: x0", x.stand(0, -20, -15, 0), -3);
+        Due.is("54: y0", x.stand(0, -15, -22, 0), 1);
+        Due.is("54: y0", x.stand(0, -15, -21, 0), -3);
+        Due.is("54: x1", x.stand(0, -9, -15, 0), 1);
+        Due.is("54: x1", x.stand(0, -10, -15, 0), -3);
+        Due.is("54: y1", x.stand(0, -15, -8, 0), 1);
+        Due.is("54: y1", x.stand(0, -15, -9, 0), -3);
+        x.storey(0, 4, 1, 1);
+        Due.is("54: E", x.stand(0, -21, -15, 0), -3);
+        Due.is("54: OUT", x.stand(0, -7, -15, 0), 1);
+        Due.is("54: OUT", x.stand(0, -8, -15, 0), -3);
+        x.car(2, 2, 1, 0);
+        x.storey(1, 7, 1, 1);
+        x.storey(1, 12, 9, 9);
+        x.storey(1, 13, 14, 14);
+        Due.is("54: TOP: 7 is under a foot of 7, 12 isn't under the eaves'", x.stand(1, 1, 6, 0), 1);
+        Due.is("54: TOP and 5: the middle storey", x.stand(1, 0, -15, 0), -3);
+        Due.is("18: nothing where it stands", x.meets(1, 10), 0);
     }
 
     private static void counts() {
