@@ -14,8 +14,14 @@ public final class ModelTest {
     private static final List<String> NEAR = List.of("team", "stage", "run", "roster", "pulls", "block", "enter",
         "stuck", "gone", "where", "task", "crews", "late", "latest", "type", "put", "get", "copy", "measure", "turn");
 
+    private static final int MOST_CALLS = 512;
+
     private final Random random;
     private final List<Method> calls = new ArrayList<>();
+    private FloatTowers x;
+    private Model y;
+    private String told = "";
+    private int made;
 
     private ModelTest(long seed) {
         random = new Random(seed);
@@ -31,7 +37,7 @@ public final class ModelTest {
             ModelTest test = new ModelTest(run);
             test.run(run, run % 7);
         }
-        new ModelTest(1).all(new FloatTowers());
+        new ModelTest(1).all();
         Due.close("ModelTest");
     }
 
@@ -134,42 +140,39 @@ public final class ModelTest {
     }
 
     private void run(int run, int kind) throws ReflectiveOperationException {
-        FloatTowers x = new FloatTowers();
-        Model y = new Model();
+        told = "run " + run + ": ";
+        x = new FloatTowers();
+        y = new Model();
+        made = 0;
         int wrong = Due.wrong();
-        setUp(x, y, kind);
-        for (int call = 0; call < 440 && Due.wrong() == wrong; call++) {
+        setUp(kind);
+        while (made < MOST_CALLS - 60 && Due.wrong() == wrong) {
             if (random.nextInt(25) == 0) {
-                typeOrders(x, y);
+                typeOrders();
+            } else if (kind < 2 && random.nextInt(25) == 0) {
+                writeHouses();
+            } else {
+                Method m = next(kind);
+                both(m.getName(), arguments(m, kind));
             }
-            if (kind < 2 && random.nextInt(25) == 0) {
-                writeHouses(x, y);
-            }
-            both("run " + run, x, y, next(kind), kind);
         }
-        long due = y.digest();
-        Due.is("run " + run + " digest", x.digest(), due);
-        Due.is("run " + run + " digest again", x.digest(), due);
+        both("digest");
+        both("digest");
+        Due.is(told + "no more calls than an object is used for", Math.max(0, made - MOST_CALLS), 0);
     }
 
     /** Cars that stand near one another, with few things about them, so that most moves are close to something. */
-    private void setUp(FloatTowers x, Model y, int kind) {
+    private void setUp(int kind) throws ReflectiveOperationException {
         for (int car = 0; car < kind; car++) {
-            int longs = from(2, 6);
-            int sway = from(0, 20);
-            Due.is("car()", x.car(longs, 3, 50, sway), y.car(longs, 3, 50, sway));
+            both("car", from(2, 6), 3, 50, from(0, 20));
             int high = 0;
             for (int storeys = from(1, 4); storeys > 0; storeys--) {
                 high += from(1, 9);
-                int half = from(1, 5);
-                Due.is("storey()", x.storey(car, high, half, 2), y.storey(car, high, half, 2));
+                both("storey", car, high, from(1, 5), 2);
             }
             for (int tries = 0; tries < 4; tries++) {
                 int far = kind == 5 ? 500 : 20;
-                int atX = from(-far, far) / (kind == 5 ? 500 : 1) * (kind == 5 ? 500 : 1);
-                int atY = from(-far, far);
-                int h = from(0, 35);
-                Due.is("stand()", x.stand(car, atX, atY, h), y.stand(car, atX, atY, h));
+                both("stand", car, kind == 5 ? 500 * from(-1, 1) : from(-far, far), from(-far, far), from(0, 35));
             }
         }
         for (int i = 0; i < kind; i++) {
@@ -178,74 +181,75 @@ public final class ModelTest {
             int wide = from(1, 9);
             int high = from(1, 20);
             if (i < 2) {
-                Due.is("house()", x.house(x0, y0, x0 + wide, y0 + wide, high, 20 - high + 1, wide),
-                    y.house(x0, y0, x0 + wide, y0 + wide, high, 20 - high + 1, wide));
+                both("house", x0, y0, x0 + wide, y0 + wide, high, 20 - high + 1, wide);
             }
-            Due.is("wire()", x.wire(y0, x0, y0 + 5, x0 + wide, high), y.wire(y0, x0, y0 + 5, x0 + wide, high));
-            Due.is("kerb()", x.kerb(-y0, x0, -y0 + 3, x0 + 2), y.kerb(-y0, x0, -y0 + 3, x0 + 2));
+            both("wire", y0, x0, y0 + 5, x0 + wide, high);
+            both("kerb", -y0, x0, -y0 + 3, x0 + 2);
         }
     }
 
-    private void both(String run, FloatTowers x, Model y, Method m, int kind) throws ReflectiveOperationException {
-        Object[] a = arguments(m, kind);
-        Method other = Model.class.getDeclaredMethod(m.getName(), m.getParameterTypes());
-        long due = ((Number) other.invoke(y, a)).longValue();
-        long got = 0;
-        String told = run + ": " + m.getName() + java.util.Arrays.toString(a);
+    private void both(String name, Object... a) throws ReflectiveOperationException {
+        Method m = calls.stream().filter(c -> c.getName().equals(name)).findFirst().orElseThrow();
+        long due = ((Number) Model.class.getDeclaredMethod(name, m.getParameterTypes()).invoke(y, a)).longValue();
+        made++;
+        Due.is(told + name + java.util.Arrays.toString(a), answer(x, m, a), due);
+    }
+
+    private long answer(FloatTowers it, Method m, Object[] a) throws ReflectiveOperationException {
         try {
-            got = ((Number) m.invoke(x, a)).longValue();
+            return ((Number) m.invoke(it, a)).longValue();
         } catch (InvocationTargetException e) {
-            Due.is(told + " threw " + e.getCause(), 1, 0);
+            Due.is(told + m.getName() + java.util.Arrays.toString(a) + " threw " + e.getCause(), 1, 0);
+            return 0;
         }
-        Due.is(told, got, due);
     }
 
-    private void typeOrders(FloatTowers x, Model y) {
-        Due.is("tear()", x.tear(), y.tear());
+    private void typeOrders() throws ReflectiveOperationException {
+        both("tear");
         StringBuilder t = new StringBuilder();
         for (int part = from(1, 8); part > 0; part--) {
             char letter = "dblrwf".charAt(random.nextInt(6));
-            int most = letter == 'l' || letter == 'r' ? 3 : letter == 'w' ? 3 : 6;
-            int number = random.nextInt(40) == 0 ? from(0, 99) : from(letter == 'l' || letter == 'r' || letter == 'w' ? 0 : 1, most);
+            boolean fromNone = "lrw".indexOf(letter) >= 0;
+            int number = random.nextInt(40) == 0 ? from(0, 99) : from(fromNone ? 0 : 1, fromNone ? 3 : 6);
             t.append(letter).append(number < 10 && random.nextInt(9) == 0 ? "0" : "").append(number);
             if (part > 1 || random.nextInt(30) == 0) {
                 t.append(';');
             }
         }
         for (int i = 0; i < t.length(); i++) {
-            Due.is("type()", x.type(t.charAt(i)), y.type(t.charAt(i)));
+            both("type", (int) t.charAt(i));
         }
-        Due.is("fault() of " + t, x.fault(), y.fault());
+        both("fault");
         for (int car = -1; car < 4; car++) {
-            Due.is("perform() of " + t, x.perform(car), y.perform(car));
+            both("perform", car);
         }
     }
 
-    private void writeHouses(FloatTowers x, Model y) {
+    private void writeHouses() throws ReflectiveOperationException {
         int form = from(0, 2);
         int n = from(0, 30);
-        Due.is("sheet()", x.sheet(0, form, n), y.sheet(0, form, n));
+        both("sheet", 0, form, n);
         for (int i = 0; i < n; i++) {
-            int v = i % 7 < 2 ? from(-120, 120) : i % 7 < 4 ? from(60, 200) : from(1, 9);
-            Due.is("put()", x.put(0, form, i, v), y.put(0, form, i, v));
+            both("put", 0, form, i, i % 7 < 2 ? from(-120, 120) : i % 7 < 4 ? from(60, 200) : from(1, 9));
         }
-        Due.is("measure()", x.measure(0), y.measure(0));
+        both("measure", 0);
     }
 
-    /** Every call with every wild number in every place. */
-    private void all(FloatTowers x) throws ReflectiveOperationException {
+    /** Every call with wild numbers in every place, on an object that has something of everything. */
+    private void all() throws ReflectiveOperationException {
         for (Method m : calls) {
+            x = new FloatTowers();
+            y = new Model();
+            made = 0;
+            setUp(4);
+            typeOrders();
             Class<?>[] types = m.getParameterTypes();
-            for (int round = 0; round < 500; round++) {
+            for (; made < MOST_CALLS; made++) {
                 Object[] a = new Object[types.length];
                 for (int i = 0; i < a.length; i++) {
                     a[i] = types[i] == boolean.class ? (Object) random.nextBoolean() : (Object) WILD[random.nextInt(WILD.length)];
                 }
-                try {
-                    m.invoke(x, a);
-                } catch (InvocationTargetException e) {
-                    Due.is(m.getName() + java.util.Arrays.toString(a) + " threw " + e.getCause(), 1, 0);
-                }
+                answer(x, m, a);
             }
         }
     }
