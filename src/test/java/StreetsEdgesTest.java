@@ -25,6 +25,7 @@ public final class StreetsEdgesTest {
         Edge.of(1, "no FINDING before any", "count(9)=0");
         Edge.of(1, "what is told at first: F, FORCE, ROLL, GRIP, RUN, CREWS",
             "feet(1)=4 set(0,1)=3 set(1,1)=20 set(2,1)=12 run(1)=2 crews(2)=1");
+        lastCall();
         FloatTowers one = new FloatTowers();
         one.house(0, 0, 1, 1, 1, 1, 1);
         one.car(2, 2, 1, 0);
@@ -36,6 +37,16 @@ public final class StreetsEdgesTest {
         Due.is("1: another object is new, whatever one did", other.digest(), new FloatTowers().digest());
         Due.is("1: its SHEETS are LOST", other.lose(0), -11);
         Due.is("1: the first one has what it had", one.count(0), 1);
+    }
+
+    private static void lastCall() {
+        FloatTowers x = new FloatTowers();
+        x.car(2, 2, 1, 0);
+        x.stand(0, 0, 0, 0);
+        for (int call = 3; call < 512; call++) {
+            Due.is("1: call " + call, x.move(0, call % 2), 1);
+        }
+        Due.is("1: the 512th call answers as the others", x.about(0, 8), 509);
     }
 
     private static void turn() {
