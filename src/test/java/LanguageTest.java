@@ -1,6 +1,12 @@
 import java.io.IOException;
+import java.lang.reflect.Field;
+import java.lang.reflect.Method;
+import java.lang.reflect.Modifier;
 import java.nio.file.Files;
 import java.nio.file.Path;
+import java.util.ArrayList;
+import java.util.List;
+import java.util.TreeSet;
 import java.util.regex.Matcher;
 import java.util.regex.Pattern;
 
@@ -25,6 +31,8 @@ public final class LanguageTest {
             count(code, "\\bMath\\.(abs|min|max|floorDiv|floorMod)\\(|\\bInteger\\.bitCount\\(|\\bArrays\\.fill\\("
                 + "|\\bSystem\\.arraycopy\\("));
         parameters(code);
+        lengths(code);
+        classes();
         room();
         Due.close("LanguageTest");
     }
@@ -42,6 +50,46 @@ public final class LanguageTest {
         Matcher m = Pattern.compile("(?m)^ +(?:[a-z]+ )+[\\w\\[\\]]+ \\w+\\(([^)]*)\\) \\{").matcher(code);
         while (m.find()) {
             Due.is("11: parameters of " + m.group(), m.group(1).split(",").length <= 7 ? 1 : 0, 1);
+        }
+    }
+
+    /** From a line that opens a method to the brace that stands as far in. */
+    private static void lengths(String code) {
+        Matcher m = Pattern.compile("(?ms)^( {4}| {8})(?! )[^\\n;=]*\\([^;{]*\\) \\{$.*?^\\1\\}$").matcher(code);
+        int methods = 0;
+        while (m.find()) {
+            methods++;
+            String first = m.group().lines().findFirst().orElse("");
+            Due.is("11: lines of " + first, m.group().lines().count() <= 60 ? 1 : 0, 1);
+        }
+        Due.is("11: the methods are seen", methods > 150 ? 1 : 0, 1);
+    }
+
+    private static void classes() {
+        TreeSet<String> face = new TreeSet<>();
+        for (Method m : FloatTowers.class.getDeclaredMethods()) {
+            if (Modifier.isPublic(m.getModifiers())) {
+                face.add(m.getName());
+            }
+        }
+        List<Class<?>> all = new ArrayList<>(List.of(FloatTowers.class.getDeclaredClasses()));
+        for (Class<?> inside : all) {
+            Due.is("2: static: " + inside, Modifier.isStatic(inside.getModifiers()) ? 1 : 0, 1);
+            for (Method m : inside.getDeclaredMethods()) {
+                Due.is("1: no name of the face: " + m, face.contains(m.getName()) ? 1 : 0, 0);
+            }
+        }
+        all.add(FloatTowers.class);
+        for (Class<?> each : all) {
+            int fields = 0;
+            for (Field f : each.getDeclaredFields()) {
+                if (Modifier.isStatic(f.getModifiers())) {
+                    Due.is("5: final: " + f, Modifier.isFinal(f.getModifiers()) ? 1 : 0, 1);
+                } else {
+                    fields++;
+                }
+            }
+            Due.is("11: fields of " + each, fields <= 20 ? 1 : 0, 1);
         }
     }
 
